@@ -1094,13 +1094,13 @@ public final class WreckCourt {
             }
         }
 
+        /** Of each fact the later ones alone, as gather takes the first of what is left. */
         private void findQuarrels() {
             Arrays.fill(quarrels, 0);
             for (int a = 0; a < size; a++) {
                 for (int b = a + 1; b < size && isJudged(a); b++) {
                     if (isJudged(b) && isQuarrel(a, b)) {
                         quarrels[a] |= 1 << b;
-                        quarrels[b] |= 1 << a;
                     }
                 }
             }
@@ -1280,8 +1280,7 @@ public final class WreckCourt {
 
     /** THE TAPE, and the reading of it, token by token up to the first FAULT. */
     private static final class Reader {
-        private static final int END = 0, NAME = 1, NUMBER = 2, SIGN = 3, WRONG = 4;
-        private static final int NAME_LENGTH = 6, NUMBER_LENGTH = 4;
+        private static final int END = 0, NUMBER = 1, OTHER = 2, FIGURES = 4;
 
         int length = 0;
         int latest = 0;
@@ -1440,27 +1439,28 @@ public final class WreckCourt {
             if (start == length) {
                 token = END;
             } else if (isLetter(tape[start])) {
-                token = takeLetters();
+                takeLetters();
             } else if (isFigure(tape[start])) {
-                token = takeFigures();
+                takeFigures();
             } else {
-                token = isSign(tape[start]) ? SIGN : WRONG;
+                token = OTHER;
                 behind++;
             }
         }
 
-        private int takeLetters() {
+        /** A name that is too long needs no look: no word of a rule has so many letters. */
+        private void takeLetters() {
             while (behind < length && isLetter(tape[behind])) {
                 behind++;
             }
-            return behind - start <= NAME_LENGTH ? NAME : WRONG;
+            token = OTHER;
         }
 
-        private int takeFigures() {
+        private void takeFigures() {
             while (behind < length && isFigure(tape[behind])) {
                 behind++;
             }
-            return behind - start <= NUMBER_LENGTH ? NUMBER : WRONG;
+            token = behind - start <= FIGURES ? NUMBER : OTHER;
         }
 
         private static boolean isGap(int sign) {
@@ -1473,10 +1473,6 @@ public final class WreckCourt {
 
         private static boolean isFigure(int sign) {
             return sign >= '0' && sign <= '9';
-        }
-
-        private static boolean isSign(int sign) {
-            return sign == ';' || sign == '<' || sign == '>' || sign == '=';
         }
     }
 }

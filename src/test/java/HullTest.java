@@ -107,6 +107,10 @@ public final class HullTest {
         Checks.due("as far as there is any", x.water(2, 1), 0);
         Checks.due("no less than none", x.water(NONE, 1), 10);
         Checks.due("then the other", x.water(4, 2), 0);
+        x.hole(1, 5, 50);
+        Checks.due("hold 1 has the most", x.water(1, 6), 0);
+        x.hull(6, 9);
+        Checks.due("hold 1 first", x.water(1, 6), 41);
     }
 
     private static void sinks() {
@@ -146,6 +150,7 @@ public final class HullTest {
         Checks.due("door 0 open", x.other(1, 0), 27);
         Checks.due("door 4 open", x.other(1, 4), 27);
         Checks.due("pump of 5", x.other(2, 5), x.sinks() + later(x, 5));
+        Checks.due("pump of 0", x.other(2, 0), 27);
         Checks.due("pump of 100", x.other(2, 100), NONE);
         Checks.due("no first hole", x.other(3, 0), NONE);
         Checks.due("no second hole", x.other(3, 1), 30);

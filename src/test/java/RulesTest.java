@@ -65,6 +65,9 @@ public final class RulesTest {
         reads("if fog=1{must slow;", FAULTED - 8);
         reads("if fog=1/must slow;", FAULTED - 8);
         reads("if fog=1:must slow;", FAULTED - 8);
+        reads("if fog=" + "1".repeat(393), FAULTED - 7);
+        reads("z".repeat(400), FAULTED);
+        reads("if" + " ".repeat(398), FAULTED - 400);
     }
 
     private static void faults() {
@@ -195,6 +198,8 @@ public final class RulesTest {
         x.dark(1, 105, 120);
         Checks.due("no rules", x.blame(0, 0), 0);
         Checks.due("no first", x.blame(0, 1) + x.blame(0, 2) + x.blame(0, 3), 3 * NONE);
+        Checks.read(x, "if speed=0 must light;");
+        blamed(x, 240, 0, 2, 0);
         Checks.read(x, "if night=1 must slow;if fog=1 must turn;if fog=1 must slow;if fog=1 must sound;");
         blamed(x, 20 + 10 + 10, 100, 0, 2);
         x.done(0, 0, 100, 106);

@@ -35,12 +35,12 @@ public final class ShipsTest {
         for (int course = 0; course < 16; course++) {
             WreckCourt x = new WreckCourt();
             x.ship(0, 0);
-            x.order(0, 0, course, 50);
-            Checks.due("x of course " + course, x.where(0, 2, 0), 2 * (X[course] / 2));
-            Checks.due("y of course " + course, x.where(0, 2, 1), 2 * (Y[course] / 2));
-            x.order(0, 0, course, 1);
-            Checks.due("cut towards 0, x " + course, x.where(0, 100, 0), 100 * (X[course] / 100));
-            Checks.due("cut towards 0, y " + course, x.where(0, 100, 1), 100 * (Y[course] / 100));
+            for (int speed = 1; speed <= 50; speed++) {
+                x.order(0, 0, course, speed);
+                Checks.due("x of course " + course, x.where(0, 3, 0), 3 * (X[course] * speed / 100));
+                Checks.due("y of course " + course, x.where(0, 3, 1), 3 * (Y[course] * speed / 100));
+                Checks.due("course " + course, x.where(0, 0, 2), course);
+            }
         }
     }
 
@@ -154,6 +154,21 @@ public final class ShipsTest {
         Checks.due("in fog", x.where(0, 24, 4), 9999);
         Checks.due("behind fog", x.where(0, 25, 4), 500);
         Checks.due("in night, beyond", x.where(1, 10, 4), 9999);
+        edgeOfSight(0, 100);
+        edgeOfSight(1, 500);
+        edgeOfSight(2, 1000);
+    }
+
+    private static void edgeOfSight(int dark, int sight) {
+        WreckCourt x = new WreckCourt();
+        x.dark(dark, 0, 240);
+        x.ship(0, 0);
+        x.ship(sight + 1, 0);
+        Checks.due("one beyond sight", x.where(0, 0, 4), 9999);
+        x.ship(0, -sight);
+        Checks.due("as far as sight", x.where(0, 0, 4), sight);
+        x.ship(0, 0);
+        Checks.due("at one place", x.where(0, 0, 4), 0);
     }
 
     private static void nearest() {
@@ -175,6 +190,23 @@ public final class ShipsTest {
         Checks.bad("nearest", x.nearest(0, 0, 0), x.nearest(0, 4, 0), x.nearest(-1, 0, 1), x.nearest(0, 1, 2),
             x.nearest(0, 1, -1), x.nearest(MAX, MIN, 0));
         farApart();
+        atBothEnds();
+    }
+
+    private static void atBothEnds() {
+        WreckCourt x = new WreckCourt();
+        x.ship(0, 0);
+        x.ship(300, 0);
+        x.order(1, 239, 12, 50);
+        Checks.due("least at the end", x.nearest(0, 1, 0), 240);
+        Checks.due("as far then", x.nearest(0, 1, 1), 250);
+        x.order(1, 0, 12, 50);
+        x.order(1, 1, 4, 1);
+        Checks.due("least at 1", x.nearest(0, 1, 0), 1);
+        x.order(1, 0, 4, 50);
+        Checks.due("least at 0", x.nearest(0, 1, 0), 0);
+        x.ship(300, 0);
+        Checks.due("at one place", x.nearest(1, 2, 1), 0);
     }
 
     private static void farApart() {

@@ -64,6 +64,9 @@ public final class ToldTest {
         Checks.due("one more", x.quarrel(0, 2, 0, 0, 0), 1);
         Checks.due("and from there", x.quarrel(2, 0, 0, 0, 0), 1);
         Checks.due("backward in time", x.quarrel(0, 3, 0, 0, 0), 1);
+        Checks.due("of others", x.quarrel(2, 1, 0, 0, 0) + x.quarrel(1, 2, 0, 0, 0), 0);
+        Checks.due("of others, far", x.quarrel(3, 5, 0, 0, 0) + x.quarrel(5, 3, 0, 0, 0), 2);
+        Checks.due("both off the middle", x.quarrel(3, 2, 0, 0, 0) + x.quarrel(2, 5, 0, 0, 0), 0);
         Checks.due("two ships", x.quarrel(0, 4, 0, 0, 0), 0);
         Checks.due("FAR is cut: 100.6", x.quarrel(0, 5, 0, 0, 0), 0);
         Checks.due("no clock moves facts and papers", x.quarrel(0, 3, 3, 3, 3), 1);
@@ -84,6 +87,9 @@ public final class ToldTest {
             Checks.due("both by clocks " + c, x.quarrel(1, 2, 0, c, -c), Math.abs(2 * c) * 50 >= 300 ? 0 : 1);
             Checks.due("one clock moves both " + c, x.quarrel(1, 3, 0, c, 0), 0);
         }
+        x.fact(2, 0, 8, 200, 0, 0, 0, 0);
+        Checks.due("an early clock is farther off", x.quarrel(0, 4, -2, 0, 0), 0);
+        Checks.due("a late one is nearer", x.quarrel(0, 4, 2, 0, 0), 1);
         x.withdraw(1, 0);
         Checks.due("a GONE one keeps its clock", x.quarrel(0, 1, 0, 3, 0), 0);
         Checks.due("and quarrels as ahead", x.quarrel(0, 1, 0, 2, 0), 1);
@@ -102,6 +108,11 @@ public final class ToldTest {
             Checks.due("how many on " + days[i], x.court(days[i], 1), 1);
             Checks.due("sure on " + days[i], x.court(days[i], 4), Integer.bitCount(sets[i]));
         }
+        Checks.due("none on an earlier day, asked again", x.court(2, 1), 1);
+        Checks.due("and the most of it", x.court(2, 0), 0);
+        x.withdraw(0, 50);
+        Checks.due("both GONE", x.count(4), 2);
+        Checks.due("none heard any more", x.court(50, 1), 1);
         Checks.due("not yet", x.sure(0, 4), NONE);
         Checks.due("on its day", x.sure(0, 5), 2);
     }
@@ -184,6 +195,15 @@ public final class ToldTest {
         x.fact(3, 1, 106, 0, 150, 0, 0, 2);
         Checks.due("one clock for all of a person", x.court(2, 0), 5);
         Checks.due("some way is left", x.court(2, 1), 2);
+        for (int person = 0; person < 3; person++) {
+            WreckCourt one = new WreckCourt();
+            one.fact(1, 0, 100, 150, 0, 0, person, 0);
+            one.fact(0, 0, 100, 0, 0, 0, 0, 0);
+            Checks.due("the clock of " + person, one.court(0, 0), 2);
+            one.fact(1, 0, 100, 301, 0, 0, person, 0);
+            Checks.due("one clock of " + person, one.court(0, 1), 1);
+            Checks.due("agree on a clock", one.court(0, 3), 3);
+        }
     }
 
     private static void refused() {
