@@ -144,6 +144,8 @@ public final class RulesTest {
         Checks.due("41st", x.done(0, 0, 0, 1), WreckCourt.FULL);
         Checks.due("BAD ahead of FULL", x.done(0, 0, 1, 1), WreckCourt.BAD);
         Checks.due("how many", x.count(7), 40);
+        Checks.read(x, "if fog=0 must slow;");
+        Checks.due("all but the last minute is left undone", x.blame(0, 0), 239);
     }
 
     private static void owes() {

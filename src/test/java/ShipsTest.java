@@ -123,6 +123,10 @@ public final class ShipsTest {
         }
         Checks.due("11th", x.dark(0, 0, 1), WreckCourt.FULL);
         Checks.due("BAD ahead of FULL", x.dark(0, 1, 1), WreckCourt.BAD);
+        x.ship(0, 0);
+        x.ship(0, 600);
+        Checks.due("ahead of all ten", x.where(0, 238, 4), 600);
+        Checks.due("in all ten", x.where(0, 239, 4), 9999);
     }
 
     private static void where() {

@@ -175,6 +175,8 @@ public final class ToldTest {
         Checks.due("of pairs the most", pairs.court(0, 0), 6);
         Checks.due("of pairs the rivals", pairs.court(0, 1), 64);
         Checks.due("of pairs left", pairs.court(0, 7), 32);
+        Checks.due("of pairs all are open", pairs.court(0, 5), 12);
+        Checks.due("of pairs none is sure", pairs.court(0, 4), 0);
         Checks.due("of threes the most", threes.court(0, 0), 4);
         Checks.due("of threes the rivals", threes.court(0, 1), 81);
         Checks.due("of threes left", threes.court(0, 7), 54);
