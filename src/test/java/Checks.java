@@ -5,15 +5,33 @@ final class Checks {
     static final int NULL = -1000011, PLACE = -1000012, KIND = -1000013, SIZE = -1000014, STORE = -1000015;
     private static int made = 0;
     private static int wrong = 0;
+    private static String about = "";
 
     private Checks() {
+    }
+
+    /** What the answers from here on are about: it is told with each wrong one. */
+    static void begin(String newAbout) {
+        about = newAbout;
+    }
+
+    static int made() {
+        return made;
     }
 
     static void due(String call, int got, int want) {
         made++;
         if (got != want) {
             wrong++;
-            System.out.println(call + " answered " + got + ", due is " + want);
+            System.out.println((about.isEmpty() ? "" : about + ": ") + call + " answered " + got + ", due is " + want);
+        }
+    }
+
+    /** A row of answers, each with its own that is due. */
+    static void dues(String calls, int[] got, int... want) {
+        due(calls + ", how many", got.length, want.length);
+        for (int i = 0; i < got.length && i < want.length; i++) {
+            due(calls + ", number " + i, got[i], want[i]);
         }
     }
 

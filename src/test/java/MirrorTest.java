@@ -1,13 +1,11 @@
-import java.lang.reflect.Method;
-import java.nio.charset.StandardCharsets;
 import java.util.ArrayList;
-import java.util.Arrays;
 import java.util.List;
 import java.util.Random;
 
 /** Long runs of mixed calls, the same on every machine, answered by the class and by the slow model alike. */
 public final class MirrorTest {
-    private static final int CALLS = 512;
+    /** A text takes up to 51 calls, and an object is good for 512. */
+    private static final int CALLS = 460;
     private static final String[] SETTERS = {"sheet", "set", "set", "copy", "drop", "ship", "order", "order", "tide", "tide",
         "dark", "hull", "door", "hole", "fact", "fact", "withdraw", "done", "text"};
     private static final String[] LOOKS = {"where", "where", "nearest", "water", "sinks", "other", "quarrel", "court", "court",
@@ -16,10 +14,7 @@ public final class MirrorTest {
         "light", "turn", "<", ">", "=", ";", "0", "1", "20", "300", "9999", "12345", "x", "\t", "abcdefg"};
 
     private final Random random;
-    private final WreckCourt court = new WreckCourt();
-    private final Model model = new Model();
-    private final List<String> run = new ArrayList<>();
-    private int wrong = 0;
+    private final Pair pair = new Pair();
 
     private MirrorTest(int seed) {
         random = new Random(seed);
@@ -34,39 +29,23 @@ public final class MirrorTest {
     }
 
     private int differences() throws Exception {
-        for (int i = 0; i < CALLS && wrong == 0; i++) {
-            boolean early = i < CALLS / 2 ? random.nextInt(10) < 7 : random.nextInt(10) < 3;
+        while (pair.callsMade() < CALLS && pair.differences() == 0) {
+            boolean early = pair.callsMade() < CALLS / 2 ? random.nextInt(10) < 7 : random.nextInt(10) < 3;
             String[] names = early ? SETTERS : LOOKS;
             String name = names[random.nextInt(names.length)];
             if (name.equals("text")) {
-                feedText();
+                pair.feed(text());
+                pair.call("rules", row());
             } else if (!isDear(name) || random.nextInt(3) == 0) {
-                call(name, arguments(name));
+                pair.call(name, arguments(name));
             }
         }
-        return wrong;
+        return pair.differences();
     }
 
     /** The model is too slow for these in every row. */
     private static boolean isDear(String name) {
         return name.equals("blame") || name.equals("court") || name.equals("sure") || name.equals("nearest");
-    }
-
-    private void call(String name, Object... arguments) throws Exception {
-        Class<?>[] types = new Class<?>[arguments.length];
-        for (int i = 0; i < types.length; i++) {
-            types[i] = arguments[i] instanceof Long ? long.class : int.class;
-        }
-        Method own = WreckCourt.class.getMethod(name, types);
-        Method due = Model.class.getMethod(name, types);
-        Object got = own.invoke(court, arguments);
-        Object want = due.invoke(model, arguments);
-        run.add(name + Arrays.toString(arguments) + " -> " + got);
-        if (!got.equals(want)) {
-            wrong++;
-            run.forEach(System.out::println);
-            System.out.println("due is " + want);
-        }
     }
 
     private int pick(int least, int most) {
@@ -144,15 +123,6 @@ public final class MirrorTest {
             row[i] = numbers[i];
         }
         return row;
-    }
-
-    private void feedText() throws Exception {
-        byte[] bytes = text().getBytes(StandardCharsets.ISO_8859_1);
-        for (int at = 0; at < bytes.length; at += 8) {
-            int n = Math.min(8, bytes.length - at);
-            call("feed", Checks.packed(bytes, at, n), n);
-        }
-        call("rules");
     }
 
     private String text() {
