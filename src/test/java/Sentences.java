@@ -28,7 +28,7 @@ final class Sentences {
         for (int promise = firstPromise; promise <= lastPromise; promise++) {
             Checks.due("promise " + promise, told.contains(promise) ? 1 : 0, 1);
         }
-        System.out.println(testsOf(tests).size() + " sentences");
+        System.out.println(testsOf(tests).size() + " tests by sentence");
         Checks.end();
     }
 

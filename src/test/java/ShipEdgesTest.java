@@ -37,7 +37,7 @@ public final class ShipEdgesTest {
             WreckCourt x = withShips(0, 0);
             int byX = course < 8 ? first[course] : -first[course - 8];
             int byY = course < 4 ? -first[course + 4] : course < 12 ? first[course - 4] : -first[course - 12];
-            for (int speed : new int[] {0, 1, 2, 3, 25, 38, 49, 50}) {
+            for (int speed : new int[] {0, 1, 2, 3, 25, 31, 38, 49, 50}) {
                 x.order(0, 0, course, speed);
                 Checks.due("x of course " + course + " at " + speed, x.where(0, 1, 0), byX * speed / 100);
                 Checks.due("y of course " + course + " at " + speed, x.where(0, 1, 1), byY * speed / 100);
