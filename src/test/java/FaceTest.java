@@ -21,6 +21,8 @@ public final class FaceTest {
         + "tide(int,int,int,int) trace(int) water(int,int) where(int,int,int) withdraw(int,int)";
     private static final List<String> RULED_OUT = List.of("throw", "throws", "try", "catch", "synchronized", "assert",
         "volatile", "native", "hashCode", "toString", "System.out", "Exact(", "->", "::", "double", "float", "var ");
+    private static final Set<String> LIBRARY = Set.of("Arrays.fill", "Integer.bitCount",
+        "Integer.numberOfTrailingZeros", "Math.abs", "Math.max", "Math.min", "System.arraycopy");
 
     public static void main(String[] args) throws Exception {
         constants();
@@ -56,8 +58,15 @@ public final class FaceTest {
             }
         }
         same("the face", String.join(" ", face), FACE);
-        for (Method method : WreckCourt.class.getDeclaredMethods()) {
-            if (Modifier.isPrivate(method.getModifiers())) {
+        namesOfItsOwn(WreckCourt.class);
+        for (Class<?> one : WreckCourt.class.getDeclaredClasses()) {
+            namesOfItsOwn(one);
+        }
+    }
+
+    private static void namesOfItsOwn(Class<?> one) {
+        for (Method method : one.getDeclaredMethods()) {
+            if (!Modifier.isPublic(method.getModifiers())) {
                 same("no face's name", (" " + FACE).contains(" " + method.getName() + "(") ? method.getName() : "", "");
             }
         }
@@ -117,6 +126,19 @@ public final class FaceTest {
         }
         Checks.due("signs above 127", (int) source.chars().filter(c -> c > 127).count(), 0);
         methodLengths(code);
+        library(code);
+    }
+
+    /** What the program takes from the library is known here by name: whoever takes more looks at LANGUAGE.md first. */
+    private static void library(String code) {
+        Matcher taken = Pattern.compile("(?m)^import (.*);$").matcher(code);
+        while (taken.find()) {
+            same("imported", taken.group(1), "java.util.Arrays");
+        }
+        Matcher called = Pattern.compile("\\b(?:[A-Z][a-z]+)\\.\\w+(?=\\()").matcher(code);
+        while (called.find()) {
+            same("of the library", LIBRARY.contains(called.group()) ? "" : called.group(), "");
+        }
     }
 
     /** A method begins with four or eight spaces and an open brace at its line's end, and ends where its brace stands. */
